@@ -96,10 +96,12 @@ public final class FamiliesTest {
         due.is("choose three", x.choose(0, 13), Due.BAD);
         due.is("choose barred", x.choose(0, 2), Due.BAD);
         due.is("choose barred beside", x.choose(0, 3), Due.BAD);
+        x.family(0, 10001);
+        due.is("choose what is not green", x.choose(1, 1), Due.BAD);
         due.is("choose -2", x.choose(0, -2), Due.BAD);
         due.is("choose no meal", x.choose(0, 16), Due.BAD);
         due.is("choose least", x.choose(0, Integer.MIN_VALUE), Due.BAD);
-        due.is("choose no family", x.choose(1, 0), Due.BAD);
+        due.is("choose no family", x.choose(2, 0), Due.BAD);
         due.is("choice stays", x.choose(0, -1), 9);
         due.is("box skipped", x.box(0, 0), 0);
         due.is("choose none", x.choose(0, 0), -1);
@@ -209,7 +211,12 @@ public final class FamiliesTest {
         due.is("ice beyond", x.ice(0), 9999);
         x.choose(0, -1);
         due.is("ice of an empty box", x.ice(0), 0);
-        due.is("ice no family", x.ice(1), Due.BAD);
+        x.family(0, 19996);
+        Due.law(x, "mark 1 ice m");
+        x.meal(2, 2);
+        x.menu(4);
+        due.is("ice: miles of a green family", x.ice(1), 999);
+        due.is("ice no family", x.ice(2), Due.BAD);
         due.is("ice below", x.ice(-1), Due.BAD);
     }
 }

@@ -4,6 +4,7 @@ public final class ImagesSheetsTest {
 
     public static void main(String[] args) {
         images();
+        packedBehindTheImage();
         whatAnImageLeaves();
         sheets();
         marks();
@@ -72,6 +73,47 @@ public final class ImagesSheetsTest {
         x.meal(0, 5);
         due.is("a meal that comes again has no parts", x.about(2, 4), 0);
         due.is("and likes as at first", x.likes(0, 2, 5), 5);
+    }
+
+    private static void packedBehindTheImage() {
+        DinnerBoxes x = kitchen();
+        String before = Due.picture(x);
+        x.keep();
+        due.is("got of lot 1 at the image", x.recall(1), 3);
+        x.back();
+        x.choose(1, -1);
+        x.choose(0, 0);
+        due.is("pack", x.pack(5000), 450);
+        x.end();
+        x.end();
+        x.back();
+        due.is("all is as it was", Due.picture(x).equals(before) ? 1 : 0, 1);
+        due.is("not packed", x.count(5), 0);
+        due.is("packed grams are back", x.stock(0, 3), 300);
+        x.end();
+        due.is("the week was not packed now", x.box(0, 1), 0);
+        x.back();
+        x.choose(0, -1);
+        due.is("packed otherwise", x.pack(5000), 100);
+        due.is("nobody got more of it", x.recall(0), 1);
+        DinnerBoxes y = new DinnerBoxes();
+        y.part(0, 10000, 9);
+        y.meal(0, 0);
+        y.with(0, 0, 100);
+        y.family(0, 1);
+        y.lot(0, 100);
+        y.menu(1);
+        y.keep();
+        y.pack(5000);
+        due.is("got of it", y.recall(0), 1);
+        y.back();
+        due.is("did not get of it", y.recall(0), 0);
+        y.back();
+        y.pack(5000);
+        y.keep();
+        y.back();
+        due.is("packed is kept", y.count(5), 1);
+        due.is("got is kept", y.recall(0), 1);
     }
 
     private static void whatAnImageLeaves() {

@@ -70,6 +70,12 @@ public final class LawTest {
         fault("mar 1 ice 1", 0);
         fault("  marks 1 ice 1", 2);
         fault("Mark 1 ice 1", 0);
+        fault("dark 1 ice 1", 0);
+        fault("markz 1 ice 1", 0);
+        fault("marka 1 ice 1", 0);
+        fault("mark 1 ace 1", 7);
+        fault("mark 1 icy 1", 7);
+        fault("mark 1z ice 1", 6);
         fault("ice 1 mark 1", 0);
         fault("mark1 ice 1", 4);
         fault("mark 1ice 1", 6);

@@ -25,6 +25,8 @@ public final class LotsTest {
         for (int l = 2; l < 40; l++) due.is("lot " + l, x.lot(1, l), l);
         due.is("lot 41st", x.lot(1, 1), Due.FULL);
         due.is("lot 41st bad", x.lot(2, 1), Due.BAD);
+        due.is("stock of 39 lots", x.stock(1, 0), 99999 + 779);
+        due.is("in of 39 lots", x.stock(1, 2), 99999 + 779);
         int[] first = {1, 99999, 0, 99999}, last = {1, 39, 1, 39};
         for (int what = 0; what < 4; what++) {
             due.is("told 1 " + what, x.told(1, what), first[what]);

@@ -108,5 +108,17 @@ public final class MenusTest {
         x.meal(2, 1);
         due.is("best without families", x.best(1, 2000), 4);
         due.is("best of three", x.best(3, 2000), Due.NO);
+        DinnerBoxes y = new DinnerBoxes();
+        y.part(0, 10000, 1);
+        y.keep();
+        y.meal(2, 0);
+        due.is("the last try counts", y.best(1, 1), 1);
+        y.with(0, 0, 2);
+        y.meal(2, 1);
+        y.with(1, 0, 1);
+        due.is("the first one costs too", y.best(1, 2), 2);
+        y.back();
+        y.meal(0, 0);
+        due.is("what was green is no more", y.best(1, 2), Due.NO);
     }
 }

@@ -6,6 +6,9 @@ public final class PlanTest {
         wrongInputs();
         leastSorry();
         fewestSwaps();
+        fewerSwapsLater();
+        oneGram();
+        allSwap();
         firstOfSeveral();
         whatMaySwap();
         tries();
@@ -95,6 +98,59 @@ public final class PlanTest {
         due.is("so two swap: family 0", x.swap(5000, 0), 1);
         due.is("so two swap: family 1", x.swap(5000, 1), 1);
         due.is("so two swap: not family 2", x.swap(5000, 2), Due.NONE);
+    }
+
+    private static void fewerSwapsLater() {
+        DinnerBoxes x = new DinnerBoxes();
+        for (int p = 0; p < 2; p++) x.part(0, 10000, 9);
+        x.meal(0, 0);
+        x.with(0, 0, 1);
+        for (int f = 0; f < 3; f++) x.family(0, f == 0 ? 2 : 1);
+        x.menu(1);
+        x.lot(0, 2);
+        x.lot(1, 9);
+        x.unlike(0, 1, 49);
+        due.is("as sorry with fewer swaps", x.swap(5000, 0), 1);
+        due.is("not family 1", x.swap(5000, 1), Due.NONE);
+        due.is("not family 2", x.swap(5000, 2), Due.NONE);
+        // Families 2, 1 and 2 behind it (THE PLAN), then 0 (THE PLAN), 1 and 2 behind it as swapped as that and more.
+        due.is("so many tries", x.plan(6), 0);
+        due.is("one less is spent", x.plan(5), Due.SPENT);
+    }
+
+    private static void oneGram() {
+        DinnerBoxes x = new DinnerBoxes();
+        for (int p = 0; p < 3; p++) x.part(0, 10000, 9);
+        x.meal(0, 0);
+        x.with(0, 0, 1);
+        x.with(0, 1, 1);
+        x.family(0, 1);
+        x.menu(1);
+        x.lot(1, 9);
+        due.is("a gram that is needed does not come", x.plan(5000), Due.NO);
+        x.lot(2, 1);
+        due.is("another comes", x.swap(5000, 0), 2);
+        due.is("picks of a gram", x.picks(0, 0, 0), 2);
+        due.is("grams", x.pack(5000), 2);
+        due.is("a gram is packed", x.stock(2, 3), 1);
+        due.is("got a gram", x.recall(1), 1);
+    }
+
+    private static void allSwap() {
+        DinnerBoxes x = kitchen(2);
+        for (int f = 0; f < 12; f++) x.family(0, 1);
+        x.menu(1);
+        x.lot(1, 1200);
+        due.is("all are sorry", x.plan(4095), 600);
+        due.is("all are sorry, spent", x.plan(4094), Due.SPENT);
+        for (int wrong = 36; wrong >= 0; wrong -= 9) {
+            for (int i = 0; i < 36; i++) x.tell(i == wrong ? 5 : i % 3 == 0 ? i / 3 : i % 3 - 1);
+            due.is("36 numbers, wrong at " + wrong, x.check(), wrong == 36 ? 0 : wrong + 1);
+        }
+        due.is("the most picks", x.shifts(0), 6);
+        due.is("the least bits", x.shifts(1), 63);
+        due.is("pack all", x.pack(4095), 1200);
+        due.is("all got of it", x.recall(0), 4095);
     }
 
     private static void firstOfSeveral() {
@@ -250,6 +306,8 @@ public final class PlanTest {
         for (int i = 0; i < 6; i++) x.tell(rows[i]);
         x.tell(0);
         due.is("check one too many", x.check(), 7);
+        for (int i = 0; i < 6; i++) x.tell(rows[i]);
+        due.is("check right again", x.check(), 0);
     }
 
     private static void checkRefused() {
