@@ -37,6 +37,20 @@ public final class LawTest {
         x.menu(1);
         due.is("ice of joined", x.ice(0), 24);
         due.is("tape used up by a right law", x.count(8), 0);
+        Due.write(x, "mark 1 ice gg");
+        x.trim(12);
+        due.is("what is trimmed is not read: a letter", x.law(), 2);
+        Due.write(x, "mark 1 ice 345678");
+        x.trim(15);
+        due.is("what is trimmed is not read: digits", x.law(), 2);
+        due.is("ice of what is left", x.ice(0), 3456);
+        StringBuilder whole = new StringBuilder("mark 1 ice 1");
+        while (whole.length() < 120) whole.append("+1");
+        due.is("a tape that is full", Due.law(x, whole.toString()), 56);
+        due.is("ice of a full tape", x.ice(0), 55);
+        due.is("a full tape, a word at its end", Due.law(x, whole.substring(0, 118) + "+g"), 56);
+        due.is("a full tape that ends too soon", Due.law(x, whole.substring(0, 119) + "+"), -219);
+        due.is("a full tape that ends behind a sign", Due.law(x, whole.substring(0, 118) + "- "), -220);
     }
 
     private static void heat() {
