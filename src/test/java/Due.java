@@ -1,3 +1,8 @@
+import java.io.IOException;
+import java.nio.file.Files;
+import java.nio.file.Path;
+import java.util.TreeSet;
+
 /** Compares answers with those that are due, and ends a test with exit code 1 if one was wrong. */
 final class Due {
     static final int BAD = -1000000001, NO = -1000000002, FULL = -1000000003, SPENT = -1000000004;
@@ -5,12 +10,44 @@ final class Due {
 
     private int asked = 0;
     private int wrong = 0;
+    private String heading = "";
+    private String document;
+    private final TreeSet<Integer> promises = new TreeSet<>();
+
+    /** What follows holds this sentence (the document's own words) of this promise. */
+    void sentence(int promise, String words) {
+        heading = "";
+        is("the document says: " + words, folded(read()).contains(folded(words)) ? 1 : 0, 1);
+        heading = "promise " + promise + ", \"" + words + "\": ";
+        promises.add(promise);
+    }
+
+    private String read() {
+        if (document == null) {
+            try {
+                document = Files.readString(Path.of("../shared/DOC.md"));
+            } catch (IOException e) {
+                document = "";
+            }
+        }
+        return document;
+    }
+
+    private static String folded(String text) {
+        return text.replaceAll("\\s+", " ");
+    }
 
     void is(String call, long got, long want) {
         asked++;
         if (got == want) return;
         wrong++;
-        if (wrong <= 50) System.out.println(call + " answered " + got + ", due is " + want);
+        if (wrong <= 50) System.out.println(heading + call + " answered " + got + ", due is " + want);
+    }
+
+    /** There must have been a sentence of each of these promises. */
+    void named(int first, int last) {
+        heading = "";
+        for (int p = first; p <= last; p++) is("sentences of promise " + p, promises.contains(p) ? 1 : 0, 1);
     }
 
     void end() {

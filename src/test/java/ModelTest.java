@@ -3,12 +3,8 @@ import java.util.Random;
 /** Runs of 512 random calls, the same ones each time, on the class and on the model beside it. */
 public final class ModelTest {
     private static final int RUNS = 400, CALLS = 512;
-    private static final String[] NAMES = {"part", "unlike", "meal", "isOf", "with", "about", "family", "likes", "lay", "may", "choose", "box",
-        "ice", "feed", "trim", "law", "heat", "menu", "best", "kept", "lot", "told", "stock", "plan", "swap", "pack", "recall", "end", "shifts",
-        "picks", "tell", "check", "keep", "back", "sheet", "mark", "copy", "count"};
-    private static final int[] TAKES = {3, 3, 2, 2, 3, 2, 2, 3, 2, 2, 2, 2,
-        1, 3, 1, 0, 1, 1, 2, 1, 2, 2, 2, 1, 2, 1, 1, 0, 1,
-        3, 1, 0, 0, 0, 2, 3, 5, 1};
+    private static final String[] NAMES = Calls.NAMES;
+    private static final int[] TAKES = Calls.TAKES;
     private static final int[] ODD = {Integer.MIN_VALUE, Integer.MAX_VALUE, -1, -2, 1 << 30, 100000, 5001, 2001, 256, 100, 16, 17, 12, 14, 10, 40, 0};
     private static final String[] EVENTS = {"best no", "best spent", "box more", "check 0", "check more", "check no", "check spent", "choose less",
         "choose more", "choose no", "copy more", "ice more", "kept more", "law less", "law more", "lay more", "menu no", "pack more", "pack no",
@@ -212,7 +208,7 @@ public final class ModelTest {
         boolean isRefused = want <= Due.BAD && want >= Due.SIZE && want != Due.NONE;
         boolean looks = isRefused && !name.equals("check") && any(20) == 0;
         String before = looks ? Due.picture(x) : "";
-        int got = call(name, a);
+        int got = Calls.call(x, name, a);
         due.is("call " + calls + ": " + name + java.util.Arrays.toString(a), got, want);
         if (looks) due.is(name + " is refused and changes nothing", Due.picture(x).equals(before) ? 1 : 0, 1);
         if (name.equals("plan") && (want >= 0 || want == Due.NO)) due.is("the plan is the best of all rows", model.isBestPlan() ? 1 : 0, 1);
@@ -226,49 +222,5 @@ public final class ModelTest {
     private static void note(String name, int answer) {
         String what = answer == Due.SPENT ? " spent" : answer == Due.NO ? " no" : answer == 0 ? " 0" : answer > 0 ? " more" : " less";
         events.merge(name + what, 1, Integer::sum);
-    }
-
-    private static int call(String name, int[] a) {
-        switch (name) {
-            case "part": return x.part(a[0], a[1], a[2]);
-            case "unlike": return x.unlike(a[0], a[1], a[2]);
-            case "meal": return x.meal(a[0], a[1]);
-            case "isOf": return x.isOf(a[0], a[1]);
-            case "with": return x.with(a[0], a[1], a[2]);
-            case "about": return x.about(a[0], a[1]);
-            case "family": return x.family(a[0], a[1]);
-            case "likes": return x.likes(a[0], a[1], a[2]);
-            case "lay": return x.lay(a[0], a[1]);
-            case "may": return x.may(a[0], a[1]);
-            case "choose": return x.choose(a[0], a[1]);
-            case "box": return x.box(a[0], a[1]);
-            case "ice": return x.ice(a[0]);
-            case "feed": return x.feed(a[0], a[1], a[2]);
-            case "trim": return x.trim(a[0]);
-            case "law": return x.law();
-            case "heat": return x.heat(a[0]);
-            case "menu": return x.menu(a[0]);
-            case "best": return x.best(a[0], a[1]);
-            case "kept": return x.kept(a[0]);
-            case "lot": return x.lot(a[0], a[1]);
-            case "told": return x.told(a[0], a[1]);
-            case "stock": return x.stock(a[0], a[1]);
-            case "plan": return x.plan(a[0]);
-            case "swap": return x.swap(a[0], a[1]);
-            case "pack": return x.pack(a[0]);
-            case "recall": return x.recall(a[0]);
-            case "end": return x.end();
-            case "shifts": return x.shifts(a[0]);
-            case "picks": return x.picks(a[0], a[1], a[2]);
-            case "tell": return x.tell(a[0]);
-            case "check": return x.check();
-            case "keep": return x.keep();
-            case "back": return x.back();
-            case "sheet": return x.sheet(a[0], a[1]);
-            case "mark": return x.mark(a[0], a[1], a[2]);
-            case "copy": return x.copy(a[0], a[1], a[2], a[3], a[4]);
-            case "count": return x.count(a[0]);
-            default: throw new IllegalArgumentException(name);
-        }
     }
 }
