@@ -47,8 +47,9 @@ public final class FamiliesEdgesTest {
         how(20001, false);
         how(30001, false);
         how(100001, false);
-        due.sentence(8, "how is 10 * MILES, and PORTIONS");
+        due.sentence(8, "/ cuts (nothing below 0 is divided, but where told)");
         for (int below : new int[] {-1, -4, -9, -9999, -10001, -19996, Integer.MIN_VALUE}) how(below, false);
+        due.sentence(8, "how is 10 * MILES, and PORTIONS, 10000 more if it eats GREEN alone.");
         how(Integer.MAX_VALUE, false);
         how((1 << 30) + 1, false);
     }
@@ -81,6 +82,7 @@ public final class FamiliesEdgesTest {
         for (int m = 0; m < 10; m++) due.is("the last family's of meal " + m, x.likes(11, m, m), 5);
         for (int m = 0; m < 10; m++) due.is("what they became of meal " + m, x.likes(11, m, 9 - m), m);
         due.is("the first family's", x.likes(0, 9, 0), 5);
+        due.sentence(9, "LIKES of a FAMILY of a MEAL become v: what they were. BAD.");
         due.is("10 is refused", x.likes(0, 9, 10), Due.BAD);
         due.is("-1 is refused", x.likes(0, 9, -1), Due.BAD);
         due.is("so they stay", x.likes(0, 9, 9), 0);
@@ -115,7 +117,7 @@ public final class FamiliesEdgesTest {
         due.is("four of them", x.lay(1, 1), 4);
         int[] want = {3, 0, 9, 3, 3, 3, 7, 5};
         for (int m = 0; m < 8; m++) due.is("meal " + m, x.likes(1, m, 5), want[m]);
-        due.sentence(10, "BAD; NOTHING.");
+        due.sentence(10, "NOTHING: a SHEET is MISSING");
         DinnerBoxes y = Kitchens.of(0, 1, 1);
         due.is("missing", y.lay(0, 1), Due.NOTHING);
         due.is("missing, no family", y.lay(1, 1), Due.BAD);
@@ -239,6 +241,7 @@ public final class FamiliesEdgesTest {
             x.menu(m[0]);
             due.is("menu " + m[0], x.box(0, 0), m[1]);
         }
+        due.sentence(13, "BOX of a FAMILY in a WEEK: its CHOICE");
         int[][] choices = {{1, 3}, {2, 3}, {4, 5}, {8, 9}, {12, 12}, {0, 3}};
         for (int[] c : choices) {
             x.choose(0, c[0]);

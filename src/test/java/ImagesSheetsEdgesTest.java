@@ -37,9 +37,11 @@ public final class ImagesSheetsEdgesTest {
         DinnerBoxes x = new DinnerBoxes();
         due.is("week 0", x.keep(), 0);
         for (int w = 0; w < 99; w++) x.end();
+        due.sentence(35, "All is as THE IMAGE: TODAY.");
         due.is("back from week 99", x.back(), 0);
         due.is("today", x.count(6), 0);
         for (int w = 1; w <= 99; w++) due.is("week " + w + " again", x.end(), w);
+        due.sentence(34, "AN IMAGE is kept: TODAY.");
         due.is("week 99", x.keep(), 99);
         due.is("the end of it", x.end(), Due.NO);
         due.is("back to week 99", x.back(), 99);
@@ -236,6 +238,11 @@ public final class ImagesSheetsEdgesTest {
         x.sheet(0, 1);
         x.sheet(0, 16);
         for (int p = 0; p < 16; p++) due.is("place " + p + " again", x.mark(0, p, 7), 0);
+        due.sentence(36, "SIZE: a number of places is below 0.");
+        due.is("the first below 0", x.sheet(1, -1), Due.SIZE);
+        due.is("the least of all", x.sheet(1, Integer.MIN_VALUE), Due.SIZE);
+        due.is("still missing", x.mark(1, 0, 0), Due.NOTHING);
+        due.is("0 is not below 0", x.sheet(1, 0), 0);
         due.sentence(36, "BAD: sheet, n above 16; SIZE.");
         due.is("no sheet, below 0", x.sheet(2, -1), Due.BAD);
         due.is("below 0", x.sheet(0, -1), Due.SIZE);
@@ -283,6 +290,7 @@ public final class ImagesSheetsEdgesTest {
         row("the last three", x, 1, 0, 113, 114, 115);
         due.is("one to the last", x.copy(0, 0, 1, 2, 1), 1);
         row("one came", x, 1, 0, 113, 114, 100);
+        due.sentence(38, "(From a SHEET, its place, to a SHEET, its place.)");
         due.is("back to the greater", x.copy(1, 0, 0, 13, 3), 3);
         row("the ends", x, 0, 12, 112, 113, 114, 100);
         x.sheet(1, 16);
@@ -320,6 +328,7 @@ public final class ImagesSheetsEdgesTest {
         due.is("to a missing one, none", x.copy(0, 0, 1, 0, 0), Due.NOTHING);
         due.is("to a missing one, below 0", x.copy(0, 0, 1, 0, -1), Due.NOTHING);
         due.is("both missing", x.copy(1, 0, 1, 0, 0), Due.NOTHING);
+        due.is("many below 0: SIZE does not stand with it", x.copy(0, 0, 0, 0, -1), Due.INDEX);
         due.sentence(38, "INDEX: there is no such place");
         x.sheet(1, 2);
         int[][] none = {{0, 1, 1, 0, 3}, {0, 0, 1, 0, 3}, {0, 0, 1, 1, 2}, {0, 2, 1, 0, 2}, {0, 3, 1, 0, 1}, {0, 0, 1, 2, 1}, {0, 4, 1, 0, 0}, {0, 0, 1, 3, 0},

@@ -223,10 +223,12 @@ public final class LawEdgesTest {
         String digits = "1234567890";
         for (int many = 1; many <= 10; many++) {
             String number = digits.substring(0, many);
+            if (many == 6) due.sentence(17, "a NUMBER of more than 5 digits");
             if (many <= 5) right("mark " + number + " ice " + number, 2);
             else fault("mark " + number + " ice 1", 5);
             if (many > 5) fault("mark 1 ice 1+" + number, 13);
         }
+        due.sentence(17, "NUMBER (1 to 5 digits)");
         right("mark 00000 ice 99999", 2);
         fault("mark 000000 ice 1", 5);
         fault("mark 1 ice 000001", 11);
@@ -293,6 +295,8 @@ public final class LawEdgesTest {
 
     private static void wordBehindWord() {
         due.sentence(17, "a word right behind another one needs one");
+        right("mark 1 ice 1", 2);
+        due.sentence(17, "(a word that needs a blank ahead of it,");
         fault("mark1 ice 1", 4);
         fault("mark 1ice 1", 6);
         fault("mark 1 ice1", 10);

@@ -62,6 +62,7 @@ public final class LotsEdgesTest {
         due.is("spoilt, left", x.told(3, 3), 0);
         due.is("spoilt, came", x.told(3, 1), 7);
         for (int w = 10; w < 99; w++) x.end();
+        due.sentence(23, "in the WEEK in which it came");
         x.lot(5, 7);
         due.is("the last week", x.told(4, 2), 99);
     }
@@ -115,6 +116,7 @@ public final class LotsEdgesTest {
         x.recall(2);
         int[] packed = {20, 100, 121, 100, 1}, ended = {0, 0, 121, 100, 21};
         for (int what = 0; what < 5; what++) due.is("packed and called back, what " + what, x.stock(0, what), packed[what]);
+        due.sentence(24, "IN, PACKED, THROWN are grams of a PART ever");
         for (int w = 0; w < 10; w++) x.end();
         for (int what = 0; what < 5; what++) due.is("and spoilt, what " + what, x.stock(0, what), ended[what]);
     }
@@ -224,6 +226,7 @@ public final class LotsEdgesTest {
         DinnerBoxes x = Kitchens.of(0, 1, 1);
         for (int w = 1; w <= 99; w++) due.is("the end of week " + (w - 1), x.end(), w);
         due.is("the end of week 99", x.end(), Due.NO);
+        due.sentence(29, "TODAY's WEEK ends: TODAY. NO: it is 99.");
         due.is("today", x.count(6), 99);
         due.is("again", x.end(), Due.NO);
         due.sentence(29, "if it was not PACKED, its BOXES are none (not even FILLED)");

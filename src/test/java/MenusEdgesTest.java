@@ -165,6 +165,7 @@ public final class MenusEdgesTest {
         int[][] likes = {{5, 0, 0, 5}, {0, 5, 5, 0}};
         for (int f = 0; f < 2; f++) for (int m = 0; m < 4; m++) x.likes(f, m, likes[f][m]);
         due.is("0 and 3 stand ahead of 1 and 2", x.best(2, 2000), 1 + 8);
+        due.sentence(20, "It is sought by MEALS, the lesser first");
         due.is("0, 1 and 2 first of those that keep one", x.best(3, 2000), 1 + 2 + 4);
         due.is("the first of all", x.best(1, 2000), 1);
     }

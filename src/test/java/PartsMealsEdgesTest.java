@@ -3,7 +3,9 @@ public final class PartsMealsEdgesTest {
     private static final Due due = new Due();
 
     public static void main(String[] args) {
+        face();
         newObject();
+        calls();
         partsAtMost();
         partsHow();
         partsAsTold();
@@ -16,6 +18,39 @@ public final class PartsMealsEdgesTest {
         cost();
         due.named(1, 7);
         due.end();
+    }
+
+    private static void face() {
+        due.sentence(1, "public static final int BAD = -1000000001, NO = -1000000002, FULL = -1000000003, SPENT = -1000000004, NONE = -1000000005, "
+            + "NOTHING = -1000000011, INDEX = -1000000013, SIZE = -1000000014;");
+        int[] are = {DinnerBoxes.BAD, DinnerBoxes.NO, DinnerBoxes.FULL, DinnerBoxes.SPENT, DinnerBoxes.NONE, DinnerBoxes.NOTHING, DinnerBoxes.INDEX, DinnerBoxes.SIZE};
+        int[] want = {-1000000001, -1000000002, -1000000003, -1000000004, -1000000005, -1000000011, -1000000013, -1000000014};
+        for (int i = 0; i < 8; i++) due.is("constant " + i, are[i], want[i]);
+    }
+
+    /** One object for as many calls as it is used for, each of them still right. */
+    private static void calls() {
+        due.sentence(1, "An object is used for at most 512 calls after it has been made");
+        DinnerBoxes x = new DinnerBoxes();
+        for (int i = 1; i <= 512; i++) due.is("heat, call " + i, x.heat(i % 61), i == 1 ? 20 : (i - 1) % 61);
+        DinnerBoxes y = Kitchens.of(1, 1, 1);
+        y.lot(0, 500);
+        y.menu(1);
+        y.keep();
+        for (int i = 8; i < 512; i += 2) {
+            due.is("pack, call " + i, y.pack(1), 100);
+            due.is("back, call " + (i + 1), y.back(), 0);
+        }
+        DinnerBoxes z = Kitchens.of(0, 1, 1);
+        for (int i = 3; i + 10 <= 512; i += 10) {
+            Due.write(z, "mark 1 ice g+h+m+" + i);
+            due.is("law, call " + (i + 4), z.law(), 5);
+            z.menu(1);
+            due.is("ice, call " + (i + 6), z.ice(0), 20 + i);
+            due.is("keep, call " + (i + 7), z.keep(), 0);
+            due.is("check, call " + (i + 8), z.check(), 0);
+            due.is("shifts, call " + (i + 9), z.shifts(1), 0);
+        }
     }
 
     private static void newObject() {
@@ -71,8 +106,9 @@ public final class PartsMealsEdgesTest {
         for (int sort = 0; sort <= 9; sort++) for (int station = 0; station <= 3; station++) how(500 + 10 * station + sort, sort <= 5);
         due.sentence(2, "a STATION 0 .. 3");
         for (int station = 0; station <= 9; station++) how(500 + 10 * station, station <= 3);
-        due.sentence(2, "how is 100 * PRICE, 10 * STATION and SORT");
+        due.sentence(2, "/ cuts (nothing below 0 is divided, but where told)");
         for (int below : new int[] {-1, -35, -65, -99, -100, -135, -10000, -99935, Integer.MIN_VALUE}) how(below, false);
+        due.sentence(2, "how is 100 * PRICE, 10 * STATION and SORT");
         how(Integer.MAX_VALUE, false);
         how(1000000, false);
         how(1 << 30, false);
@@ -167,6 +203,7 @@ public final class PartsMealsEdgesTest {
         for (int k = 0; k < 4; k++) x.meal(k, 0);
         due.sentence(5, "KINDS 0 MEAL, 1 MEAT, 2 GREEN, 3 RAW, under GREEN (all are MEALS)");
         int[][] is = {{1, 0, 0, 0}, {1, 1, 0, 0}, {1, 0, 1, 0}, {1, 0, 1, 1}};
+        due.sentence(5, "Whether a MEAL is of a KIND: 1, 0.");
         for (int m = 0; m < 4; m++) for (int k = 0; k < 4; k++) due.is("kind " + m + " of kind " + k, x.isOf(m, k), is[m][k]);
     }
 
@@ -180,7 +217,7 @@ public final class PartsMealsEdgesTest {
         due.is("the sixth", x.with(0, 0, 1), Due.FULL);
         due.is("still five", x.about(0, 4), 5);
         due.is("grams of the least", x.about(0, 5), 5);
-        due.sentence(6, "(grams anew, if it is there)");
+        due.sentence(6, "A PART with grams comes to a MEAL (grams anew, if it is there): how many PARTS it has.");
         for (int i = 0; i < 5; i++) due.is("part " + i + " anew", x.with(0, 13 - i, 999), 5);
         due.is("grams of the most", x.about(0, 5), 5 * 999);
         due.is("the other meal has none", x.about(1, 4), 0);

@@ -42,6 +42,17 @@ public final class PlanEdgesTest {
         return x;
     }
 
+    /** So many parts of one sort, so many grams of part 0 in meal 0 (the menu), families of so many portions. */
+    private static DinnerBoxes portions(int parts, int grams, int... portions) {
+        DinnerBoxes x = new DinnerBoxes();
+        Kitchens.parts(x, parts);
+        Kitchens.meals(x, 1);
+        x.with(0, 0, grams);
+        for (int p : portions) x.family(0, p);
+        x.menu(1);
+        return x;
+    }
+
     private static void nobody() {
         due.sentence(25, "A PLAN: for each FAMILY with a BOX that is not empty nothing or one SWAP");
         due.is("a new object", new DinnerBoxes().plan(1), 0);
@@ -56,7 +67,7 @@ public final class PlanEdgesTest {
     }
 
     private static void stock() {
-        due.sentence(25, "so that no PART is needed more than STOCK");
+        due.sentence(25, "SHORT is a PART, if all NEEDS of it are more than STOCK.");
         DinnerBoxes x = kitchen(1, 2);
         x.lot(0, 199);
         due.is("a gram less", x.plan(5000), Due.NO);
@@ -205,12 +216,7 @@ public final class PlanEdgesTest {
         due.sentence(25, "It is SORRY: grams times UNLIKE of both / 100, cut (UNLIKE of two PARTS 1 .. 99, both ways alike; 50 at first)");
         int[][] rows = {{1, 1, 99, 0}, {2, 1, 50, 1}, {2, 1, 49, 0}, {100, 1, 1, 1}, {99, 1, 1, 0}, {999, 6, 99, 5934}, {999, 1, 1, 9}, {33, 3, 99, 98}, {3, 6, 50, 9}};
         for (int[] r : rows) {
-            DinnerBoxes x = new DinnerBoxes();
-            Kitchens.parts(x, 2);
-            Kitchens.meals(x, 1);
-            x.with(0, 0, r[0]);
-            x.family(0, r[1]);
-            x.menu(1);
+            DinnerBoxes x = portions(2, r[0], r[1]);
             x.unlike(1, 0, r[2]);
             x.lot(1, 99999);
             due.is(r[0] + " grams, portions " + r[1] + ", unlike " + r[2], x.plan(5000), r[3]);
@@ -244,24 +250,14 @@ public final class PlanEdgesTest {
 
     private static void fewestSwaps() {
         due.sentence(25, "of several that with the fewest SWAPS");
-        DinnerBoxes x = new DinnerBoxes();
-        Kitchens.parts(x, 2);
-        Kitchens.meals(x, 1);
-        x.with(0, 0, 1);
-        for (int portions : new int[] {1, 1, 2}) x.family(0, portions);
-        x.menu(1);
+        DinnerBoxes x = portions(2, 1, 1, 1, 2);
         x.unlike(0, 1, 1);
         x.lot(0, 2);
         x.lot(1, 9);
         due.is("all are sorry 0", x.plan(5000), 0);
         int[] want = {Due.NONE, Due.NONE, 1};
         for (int f = 0; f < 3; f++) due.is("one swap: family " + f, x.swap(5000, f), want[f]);
-        DinnerBoxes y = new DinnerBoxes();
-        Kitchens.parts(y, 2);
-        Kitchens.meals(y, 1);
-        y.with(0, 0, 1);
-        for (int portions : new int[] {2, 1, 1}) y.family(0, portions);
-        y.menu(1);
+        DinnerBoxes y = portions(2, 1, 2, 1, 1);
         y.unlike(0, 1, 1);
         y.lot(0, 2);
         y.lot(1, 9);
@@ -366,7 +362,9 @@ public final class PlanEdgesTest {
         x.lot(0, 100);
         x.lot(1, 100);
         int[] want = {Due.NONE, Due.NONE, 1};
+        due.sentence(26, "NONE: there is none.");
         for (int f = 0; f < 3; f++) due.is("family " + f, x.swap(2, f), want[f]);
+        due.sentence(26, "BAD; SPENT; NO.");
         due.is("no family", x.swap(2, 3), Due.BAD);
         due.is("no family, spent", x.swap(1, 3), Due.BAD);
         due.is("spent", x.swap(1, 0), Due.SPENT);
@@ -509,6 +507,7 @@ public final class PlanEdgesTest {
             due.is(many + " wait", y.check(), many == 3 ? 0 : 1 + Math.min(many, 3));
             due.is("none do then", y.count(7), 0);
         }
+        due.sentence(33, "ROWS of THE PLAN: of each FAMILY with a SWAP its number, the PART that goes, the PART that comes.");
         for (int wrong = 0; wrong < 3; wrong++) for (int by : new int[] {1, -1, 1 << 16, Integer.MIN_VALUE}) {
             for (int i = 0; i < 3; i++) y.tell(i == wrong ? rows[i] + by : rows[i]);
             due.is("number " + wrong + " is not right", y.check(), wrong + 1);
@@ -539,8 +538,7 @@ public final class PlanEdgesTest {
     /** Kitchens of which THE PLAN takes just 5000 TRIES, and one more. */
     private static void checkTries() {
         due.sentence(33, "ROWS of THE PLAN (with 5000 TRIES)");
-        DinnerBoxes x = kitchen(3, 0);
-        for (int portions : new int[] {3, 2, 1, 1, 3, 2, 3, 2}) x.family(0, portions);
+        DinnerBoxes x = portions(3, 100, 3, 2, 1, 1, 3, 2, 3, 2);
         x.lot(0, 100);
         x.lot(1, 1600);
         x.lot(2, 600);
@@ -551,8 +549,7 @@ public final class PlanEdgesTest {
         due.is("check with 5000", x.check(), 0);
         due.is("pack with 4999", x.pack(4999), Due.SPENT);
         due.is("pack with 5000", x.pack(5000), 1700);
-        DinnerBoxes y = kitchen(4, 0);
-        for (int portions : new int[] {3, 1, 1, 2, 3, 3, 1}) y.family(0, portions);
+        DinnerBoxes y = portions(4, 100, 3, 1, 1, 2, 3, 3, 1);
         int[] grams = {500, 400, 300, 600};
         for (int p = 0; p < 4; p++) y.lot(p, grams[p]);
         y.unlike(0, 2, 48);

@@ -80,28 +80,24 @@ public final class ShiftsEdgesTest {
         due.is("station 1", y.picks(1, 0, 0), 0);
     }
 
+    /** Families with one pick of station 0, or with two if nothing is barred. */
+    private static DinnerBoxes barred(int... barred) {
+        DinnerBoxes x = new DinnerBoxes();
+        for (int p = 0; p < 2; p++) x.part(p, 10000, 9);
+        Kitchens.meals(x, 2);
+        for (int m = 0; m < 2; m++) x.with(m, m, 1);
+        for (int b : barred) x.family(b, 1);
+        x.menu(3);
+        return x;
+    }
+
     private static void unequal() {
         due.sentence(30, LEAST);
-        // Picks of families: 1, 1, 2, all of station 0.
-        DinnerBoxes x = new DinnerBoxes();
-        x.part(0, 10000, 9);
-        x.part(1, 10000, 9);
-        Kitchens.meals(x, 1);
-        x.meal(2, 1);
-        x.with(0, 0, 1);
-        x.with(1, 1, 1);
-        for (int barred : new int[] {1, 1, 0}) x.family(barred, 1);
-        x.menu(3);
-        shifts("1, 1, 2", x, 2, 3);
-        DinnerBoxes y = new DinnerBoxes();
-        y.part(0, 10000, 9);
-        y.part(1, 10000, 9);
-        Kitchens.meals(y, 2);
-        y.with(0, 0, 1);
-        y.with(1, 1, 1);
-        for (int barred : new int[] {0, 1, 1}) y.family(barred, 1);
-        y.menu(3);
-        shifts("2, 1, 1", y, 2, 1);
+        shifts("picks 1, 1, 2", barred(1, 1, 0), 2, 3);
+        shifts("picks 2, 1, 1", barred(0, 1, 1), 2, 1);
+        shifts("picks 1, 2, 1", barred(1, 0, 1), 2, 2);
+        shifts("picks 2, 1", barred(0, 1), 2, 1);
+        shifts("picks 1, 1, 1, 2", barred(1, 1, 1, 0), 3, 3);
     }
 
     private static void emptyBoxes() {
