@@ -382,6 +382,14 @@ public final class LawEdgesTest {
 
     private static void howMany() {
         due.sentence(17, "THE TAPE is THE LAW: how many NUMBERS and NAMES it has.");
+        DinnerBoxes x = Kitchens.of(0, 1, 1);
+        x.menu(1);
+        for (String longer : new String[] {"!1", "!!1", "1+1", "1*0*0", "(1-1)*(1-1)"}) {
+            due.is("a longer law", Due.law(x, "mark " + longer + " ice " + longer) > 1 ? 1 : 0, 1);
+            due.is("a shorter one behind it", Due.law(x, "mark 6 ice 6"), 2);
+            due.is("has nothing of the longer one in ice", x.ice(0), 6);
+            due.is("nor in mark", x.about(0, 6), 1);
+        }
         right("mark 1 ice 1", 2);
         right("mark g ice g", 2);
         right("mark ((12345)) ice !!g", 2);

@@ -111,6 +111,13 @@ public final class MenusEdgesTest {
         DinnerBoxes x = Kitchens.of(0, 3, 1);
         x.meal(0, 9);
         due.is("the others may be green too", x.best(2, 2000), 3);
+        DinnerBoxes y = new DinnerBoxes();
+        y.keep();
+        y.meal(2, 0);
+        due.is("a green one", y.best(1, 1), 1);
+        y.back();
+        y.meal(0, 0);
+        due.is("another one in its place", y.best(1, 1), Due.NO);
     }
 
     private static void keptFamilies() {
