@@ -1148,6 +1148,8 @@ public final class DinnerBoxes {
 
     /** Seeks the shifts. */
     private static final class ShiftSearch {
+        private static final int MORE_THAN_ANY = FAMILIES_MOST * PARTS_MOST + 1;
+
         private final Kitchen kitchen;
         private final int[][] picked = new int[FAMILIES_MOST][STATIONS];
         private final int[][] load = new int[2][STATIONS];
@@ -1179,7 +1181,7 @@ public final class DinnerBoxes {
 
         void seek() {
             gather();
-            best = Integer.MAX_VALUE;
+            best = MORE_THAN_ANY;
             bestBits = 0;
             seekFrom(kitchen.families.size - 1, 0, 0);
         }

@@ -1,3 +1,4 @@
+import java.io.DataInputStream;
 import java.io.IOException;
 import java.lang.management.ManagementFactory;
 import java.lang.reflect.Field;
@@ -17,12 +18,18 @@ public final class LanguageTest {
     private static final Set<String> FACE = Set.of(Calls.NAMES);
     private static final Set<String> CONSTANTS = Set.of("BAD", "NO", "FULL", "SPENT", "NONE", "NOTHING", "INDEX", "SIZE");
     private static final Set<String> IMPORTS = Set.of("java.util.Arrays", "java.util.ArrayList", "java.util.List", "java.util.Iterator");
+    private static final Set<String> LIBRARY = Set.of("java/lang/Object.<init>", "java/lang/System.arraycopy", "java/util/Arrays.fill",
+        "java/util/Arrays.copyOf", "java/util/Arrays.copyOfRange", "java/lang/Math.min", "java/lang/Math.max", "java/lang/Math.abs",
+        "java/lang/Integer.bitCount", "java/lang/Integer.compare", "java/lang/String.length", "java/lang/String.charAt", "java/lang/String.indexOf");
     private static final Due due = new Due();
 
-    public static void main(String[] args) throws IOException {
+    public static void main(String[] args) throws IOException, NoSuchMethodException {
+        String text = Files.readString(Path.of("src/main/java/DinnerBoxes.java"));
         face();
+        document(Files.readString(Path.of("../shared/DOC.md")), text);
         classes();
-        source(Files.readString(Path.of("src/main/java/DinnerBoxes.java")));
+        source(text);
+        library();
         callsMakeNothing();
         due.end();
     }
@@ -43,8 +50,36 @@ public final class LanguageTest {
         for (Field f : DinnerBoxes.class.getDeclaredFields()) if (!Modifier.isPrivate(f.getModifiers())) constants.add(f.getName());
         holds("the methods of the face: " + methods, methods.equals(FACE));
         holds("the constants of the face: " + constants, constants.equals(CONSTANTS));
-        holds("one constructor", DinnerBoxes.class.getDeclaredConstructors().length == 1);
+        holds("one constructor", DinnerBoxes.class.getDeclaredConstructors().length == 1 && DinnerBoxes.class.getConstructors().length == 1);
         holds("final", Modifier.isFinal(DinnerBoxes.class.getModifiers()));
+    }
+
+    /** The document's face line by line, and its headings ahead of the calls that it names. */
+    private static void document(String text, String source) throws NoSuchMethodException {
+        Matcher calls = Pattern.compile("    public int (\\w+)\\(([^)]*)\\);").matcher(text);
+        int many = 0;
+        for (; calls.find(); many++) {
+            String[] takes = calls.group(2).isEmpty() ? new String[0] : calls.group(2).split(", ");
+            for (String one : takes) holds(calls.group(1) + " takes " + one, one.startsWith("int "));
+            Class<?>[] ints = new Class<?>[takes.length];
+            java.util.Arrays.fill(ints, int.class);
+            Method m = DinnerBoxes.class.getMethod(calls.group(1), ints);
+            holds(m + " is of the object", !Modifier.isStatic(m.getModifiers()));
+            holds(m + " as the document writes it", source.contains("    public int " + calls.group(1) + "(" + calls.group(2) + ") {"));
+        }
+        holds("calls of the document: " + many, many == FACE.size());
+        int at = 0;
+        Matcher headings = Pattern.compile("Ahead of the calls (.*) the interface says: (.*)\\.").matcher(text);
+        while (headings.find()) {
+            List<String> rows = new ArrayList<>(List.of("    // " + headings.group(2) + "\n"));
+            for (String name : headings.group(1).replace("`", "").split(", ")) rows.add("    public int " + name + "(");
+            for (String row : rows) {
+                int next = source.indexOf(row, at);
+                holds("in its order: " + row.strip(), next >= at);
+                at = Math.max(at, next);
+            }
+        }
+        holds("headings of the document", at > 0);
     }
 
     private static void classes() {
@@ -74,6 +109,7 @@ public final class LanguageTest {
         holds("no lambda", !code.contains("->"));
         holds("no method reference", !code.contains("::"));
         holds("no annotation", !code.contains("@"));
+        holds("no constants of the library", !Pattern.compile("\\b(Integer|Long|Math|Short|Character)\\.[A-Z]").matcher(code).find());
         Matcher imports = Pattern.compile("import ([\\w.]+);").matcher(code);
         while (imports.find()) holds("import " + imports.group(1), IMPORTS.contains(imports.group(1)));
         int open = 0, start = 0, line = 0;
@@ -87,6 +123,43 @@ public final class LanguageTest {
             }
         }
         holds("no method has more than sixty lines", open > 5 && open <= 60);
+    }
+
+    /** What the compiled classes use of the library, read off their constants, is what rule 4 lets them use. */
+    private static void library() throws IOException {
+        List<Class<?>> all = new ArrayList<>(List.of(DinnerBoxes.class.getDeclaredClasses()));
+        all.add(DinnerBoxes.class);
+        for (Class<?> c : all) {
+            try (DataInputStream in = new DataInputStream(c.getResourceAsStream(c.getName() + ".class"))) {
+                for (String used : usedBy(in)) holds(c + " uses " + used, !used.startsWith("java/") || LIBRARY.contains(used));
+            }
+        }
+    }
+
+    /** The methods and fields that a class file names, and "java/dynamic" for a lambda or texts joined by +. */
+    private static Set<String> usedBy(DataInputStream in) throws IOException {
+        in.skipBytes(8);
+        int many = in.readUnsignedShort();
+        String[] texts = new String[many];
+        int[][] pairs = new int[many][];
+        int[] tags = new int[many];
+        for (int i = 1; i < many; i++) {
+            tags[i] = in.readUnsignedByte();
+            switch (tags[i]) {
+                case 1: texts[i] = in.readUTF(); break;
+                case 3: case 4: in.readInt(); break;
+                case 5: case 6: in.readLong(); i++; break;
+                case 15: in.skipBytes(3); break;
+                case 7: case 8: case 16: case 19: case 20: pairs[i] = new int[] {in.readUnsignedShort(), 0}; break;
+                default: pairs[i] = new int[] {in.readUnsignedShort(), in.readUnsignedShort()};
+            }
+        }
+        Set<String> used = new TreeSet<>();
+        for (int i = 1; i < many; i++) {
+            if (tags[i] == 9 || tags[i] == 10 || tags[i] == 11) used.add(texts[pairs[pairs[i][0]][0]] + "." + texts[pairs[pairs[i][1]][0]]);
+            if (tags[i] == 17 || tags[i] == 18) used.add("java/dynamic");
+        }
+        return used;
     }
 
     private static long made() {
